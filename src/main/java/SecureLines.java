@@ -1269,13 +1269,14 @@ public final class SecureLines {
         }
 
         private static int power(long base, int exponent, int p) {
+            int m = Math.max(p, 2);
             long got = 1;
             long square = base;
             for (int bit = 0; bit < 31 && exponent >>> bit != 0; bit++) {
                 if ((exponent >>> bit & 1) == 1) {
-                    got = got * square % Math.max(p, 2);
+                    got = got * square % m;
                 }
-                square = square * square % Math.max(p, 2);
+                square = square * square % m;
             }
             return (int) got;
         }
@@ -1635,7 +1636,7 @@ public final class SecureLines {
 
         private boolean extensions(int limit) {
             int last = 160;
-            while (at < limit) {
+            for (int turn = 0; turn <= 6 && at < limit; turn++) {
                 int tag = bytes[at];
                 int end = open(tag, limit);
                 if (tag <= last || tag > 166 || end < 0) {
@@ -1661,7 +1662,7 @@ public final class SecureLines {
                 last = tag;
                 at = end;
             }
-            return true;
+            return at == limit;
         }
 
         /** One to four NODES 12: of NAMES (0) PATTERNS, of PERMITTED (1), EXCLUDED (2) NAMES. */
@@ -3634,6 +3635,7 @@ public final class SecureLines {
         private static final int ORDERS_MOST = 12;
         private static final int PATTERNS_MOST = 3;
         private static final int REVOKED_MOST = 40;
+        private static final int NUMBER_MOST = 2147483647;
         private static final int PENDING = 0;
         private static final int READY = 1;
         private static final int VALID = 2;
@@ -3823,7 +3825,7 @@ public final class SecureLines {
         /** FROM, TO, SCHEME. */
         private void putTimes(Row inside, int minutes) {
             inside.putNumber(house.time);
-            inside.putNumber((int) Math.min(Integer.MAX_VALUE, (long) house.time + minutes));
+            inside.putNumber((int) Math.min(NUMBER_MOST, (long) house.time + minutes));
             inside.putNumber(scheme);
         }
 

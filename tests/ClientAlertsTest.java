@@ -213,6 +213,10 @@ public final class ClientAlertsTest {
         answer("CHOSEN 255", 47, sharing, 1, share, Peer.field(10, Own.bytes(255)));
         answer("CHOSEN of another h", 47, sharing, 3, share, chosen);
         answer("CHOSEN of another h", 47, sharing, 2, share, Peer.field(10, Own.bytes(1)));
+        // other FIELDS of another message do not count
+        Peer server = World.toServer(sharing);
+        server.send(1, server.helloBody(5, new java.util.TreeMap<>(java.util.Map.of(1, Own.bytes(4), 99, NONE)), Peer.none()));
+        answer("right, behind another's other FIELDS", 0, sharing, 1, share, chosen);
         answer("no SHARE, MODES 2", 47, sharing, 1, chosen);
         sharing.setting(0, 6, 1);
         answer("no SHARE, MODES 3", 0, sharing, 1, chosen);
@@ -350,6 +354,8 @@ public final class ClientAlertsTest {
         chain("no CERTIFICATE", 42, Peer.chain(NONE, Own.part(good, 0, good.length - 1)));
         chain("another NODE", 42, Peer.chain(NONE, Own.node(48)));
         chain("above 400 bytes", 42, Peer.chain(NONE, new byte[401]));
+        chain("a FAULT in a NAME", 42, Peer.chain(NONE, new Cert("sr!", "root", 21).by(World.ROOT)));
+        chain("a FAULT in a STAPLE", 113, Peer.chain(Cert.answer("ro!t", 2, 0, 0, 9, 1, World.ROOT), good));
         chain("no CERTIFICATE ahead of no ANSWER", 42, Peer.chain(Own.bytes(1), Own.bytes(1)));
         chain("no ANSWER", 113, Peer.chain(Own.bytes(1), good));
         chain("a LIST", 113, Peer.chain(Cert.list("root", 1, 0, 9, 1, World.ROOT), good));
@@ -448,6 +454,14 @@ public final class ClientAlertsTest {
         staple("by another KEY, not STRICT", 0, 0, Cert.answer("root", 2, 1, 0, 9, 1, 5));
         staple("of another ISSUER", 113, 1, Cert.answer("r", 2, 0, 0, 9, 1, World.ROOT));
         staple("over", 113, 1, Cert.answer("root", 2, 0, 1, 9, 1, World.ROOT));
+        // a STAPLE that was shown counts for no other PATH
+        SecureLines z = World.both();
+        Peer shown = begun(z);
+        shown.send(11, Peer.chain(bad, World.server()));
+        Check.due("build", z.build(0, 1, 5, 1), 2);
+        shown = begun(z);
+        shown.send(11, Peer.chain(bad, World.server()));
+        Check.due("judge", z.judge(0, 5, 1), 0);
         // it is not held: a path later does not have it
         SecureLines x = World.both();
         Peer peer = begun(x);
@@ -481,6 +495,20 @@ public final class ClientAlertsTest {
         host("xc.d", 42, "*.c.d");
         host("srv", 42, "a.b");
         host("root", 42, "*.a.b");
+        // NAMES of what was shown before do not count
+        SecureLines w = World.both();
+        Own.feed(w, Own.text("a.b"));
+        w.host(0);
+        sent("NAMES", begun(w), 0, 11, Peer.chain(NONE, World.server()));
+        sent("no NAMES", begun(w), 42, 11, Peer.chain(NONE, new Cert("srv", "root", 21).by(World.ROOT)));
+        // an ANCHOR alone: USES and HOST
+        sent("an ANCHOR alone", begun(w), 42, 11, Peer.chain(NONE, World.root()));
+        SecureLines v = new SecureLines();
+        v.end(0);
+        byte[] anchor = new Cert("s", "t", 21).uses(2).by(5);
+        Own.hold(v, anchor);
+        v.trust(0, 0);
+        sent("an ANCHOR's USES", begun(v), 46, 11, Peer.chain(NONE, anchor));
         SecureLines x = World.both();
         Own.feed(x, Own.text("z"));
         x.host(0);
@@ -521,6 +549,12 @@ public final class ClientAlertsTest {
             sent("TICKET", peer, 0, 4, new byte[17]);
         }
         Check.due("six are kept", peer.x.forget(0, 5), 5);
+        // NEW KEYS that ask
+        peer = opened(World.both());
+        peer.send(24, Own.bytes(1));
+        Check.due("NEW KEYS 0 come", peer.expect(24)[0], 0);
+        Check.due("the next key for reading", peer.key(1), Own.derived(0, peer.writeKey, 'u', 0));
+        Check.due("the next key for writing", peer.key(0), Own.derived(0, peer.readKey, 'u', 0));
         // two in one record
         peer = opened(World.both());
         byte[] ticket = Peer.message(4, new byte[17]);

@@ -213,8 +213,10 @@ public final class EndsTest {
         Check.due("forget k -1", x.forget(0, -1), -1);
         Check.due("forget no end", x.forget(2, 0), -1);
         Check.due("forget", x.forget(0, 1), 5);
-        x.ticket(0, 1, 0);
-        Check.due("the next one's id", x.out(0), 3);
+        for (int k = 1; k < 5; k++) {
+            x.ticket(0, k, 0);
+            Check.due("the next one's id", x.out(0), k + 2);
+        }
         Check.due("forget", x.forget(0, 4), 4);
         Check.due("forget no more", x.forget(0, 4), -1);
     }

@@ -264,6 +264,7 @@ public final class FormsTest {
         Check.due("field(0, -1)", x.field(0, -1), -1);
         text(x, 1, 0, 99, Own.text("a"));
         text(x, 1, 1, -1, Own.text("b.c"));
+        text(x, 1, 8, 0, Own.text("x"));
         text(x, 1, 8, 1, Own.text("*.y.z"));
         text(x, 1, 8, 2, Own.text("x"));
         text(x, 1, 9, 1, Own.text("q.r"));
@@ -339,6 +340,10 @@ public final class FormsTest {
         Check.due("OFFICE twice", of(one, name, name, zero, zero, one, point, office, office), -9);
         Check.due("OFFICE with bytes", of(one, name, name, zero, zero, one, point, Own.node(161, new byte[1])), -9);
         Check.due("DEPTH", of(one, name, name, zero, zero, one, point, office, Own.node(162, Own.bytes(6))), 0);
+        SecureLines x = new SecureLines();
+        Own.hold(x, new Cert("s", "i", 9).office().by(1));
+        byte[] deep = Own.node(48, one, name, name, zero, zero, one, point, Own.node(162, Own.bytes(1)));
+        Check.due("DEPTH without OFFICE, behind an OFFICE", Own.hold(x, Own.node(48, deep, Own.node(4, new byte[8]))), -9);
         Check.due("DEPTH 7", of(one, name, name, zero, zero, one, point, office, Own.node(162, Own.bytes(7))), -9);
         Check.due("DEPTH of two", of(one, name, name, zero, zero, one, point, office, Own.node(162, Own.bytes(0, 0))), -9);
         Check.due("DEPTH of none", of(one, name, name, zero, zero, one, point, office, Own.node(162)), -9);
@@ -358,7 +363,7 @@ public final class FormsTest {
         Check.due("PERMITTED of 5", of(one, name, name, zero, zero, one, point, Own.node(165, name, name, name, name, name)), -9);
         Check.due("EXCLUDED of none", of(one, name, name, zero, zero, one, point, Own.node(166)), -9);
         byte[] inner = new Cert("s", "i", 9).inner();
-        SecureLines x = new SecureLines();
+        x = new SecureLines();
         Check.due("a NUMBER", Own.hold(x, one), -9);
         Check.due("an empty 48", Own.hold(x, Own.node(48)), -9);
         Check.due("no SIGNATURE", Own.hold(x, Own.node(48, inner)), -9);
@@ -438,7 +443,7 @@ public final class FormsTest {
         Check.due("an ANSWER", answer(x, good), 0);
         Check.due("taken", x.cut(0), 0);
         Check.due("equal ones are held twice", answer(x, good), 1);
-        Check.due("REVOKED", answer(x, Cert.answer("i", 7, 1, 5, 6, 2, 9)), 2);
+        Check.due("REVOKED, SERIAL 0", answer(x, Cert.answer("i", 0, 1, 5, 6, 2, 9)), 2);
         Check.due("state 2", answer(x, Cert.answer("i", 7, 2, 5, 6, 2, 9)), -9);
         Check.due("TO below FROM", answer(x, Cert.answer("i", 7, 1, 5, 4, 2, 9)), -9);
         Check.due("SCHEME 0", answer(x, Cert.answer("i", 7, 1, 5, 5, 0, 9)), -9);

@@ -94,6 +94,8 @@ public final class FunctionsTest {
         Check.due("unseal of 3 bytes", x.unseal(2, 1, 1, 0), 0);
         Check.due("unseal took", x.cut(0), 0);
         x.feed(4, 1);
+        Check.due("unseal of data alone", x.unseal(2, 1, 1, 4), 0);
+        x.feed(4, 1);
         Check.due("suite 0", x.seal(0, 1, 1, 0), -1);
         Check.due("suite 4", x.seal(4, 1, 1, 0), -1);
         Check.due("data beyond", x.seal(1, 1, 1, 5), -1);

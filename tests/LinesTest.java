@@ -330,6 +330,19 @@ public final class LinesTest {
         Check.that("PROOF", Arrays.equals(peer.expect(15), due));
         peer.takeClientEnd();
         dueKeys(peer, peer.sayClient, peer.sayServer, peer.next, "open");
+        // the second SCHEME alone was told
+        SecureLines w = World.both();
+        World.clientIdentity(w);
+        Peer only = World.toClient(w);
+        only.answer(2, 555, -1, 0);
+        only.send(8);
+        only.send(13, Peer.field(5, Own.bytes(9, 2)));
+        only.send(11, Peer.chain(new byte[0], World.server()));
+        only.send(15, only.proof('S', 1, World.SERVER));
+        only.endAsServer();
+        Check.that("CHAIN", Arrays.equals(only.expect(11), Peer.chain(new byte[0], World.client())));
+        due = only.proof('C', 2, World.CLIENT);
+        Check.that("PROOF", Arrays.equals(only.expect(15), due));
         // without a SCHEME that was told, and without an IDENTITY
         for (int way = 0; way < 2; way++) {
             SecureLines y = World.both();
@@ -457,6 +470,8 @@ public final class LinesTest {
         World.share(x, 0, "ab", 0, 6);
         x.offer(0, 0, 3);
         Check.that("no SHARED", !World.toClient(x).helloFields.containsKey(7));
+        x.offer(0, 0, 1);
+        Check.that("SHARED", World.toClient(x).helloFields.containsKey(7));
         // without exchange: only if both have SETTING 6
         for (int way = 0; way < 4; way++) {
             SecureLines y = World.both();
@@ -489,6 +504,7 @@ public final class LinesTest {
         peer.send(1, peer.helloBody(5, fields, Peer.of(new Peer.Offered(Own.text("ab"), 0, 6, 0))));
         Check.that("no CHOSEN", !peer.takeAnswer(9, 0).containsKey(10));
         Check.due("not used", peer.told(4), 0);
+        Check.due("GROUP", peer.told(2), 1);
         // with MODES 3 and a GROUP in common: with exchange
         z.setting(1, 6, 1);
         Peer other = World.toServer(z);
@@ -514,6 +530,7 @@ public final class LinesTest {
         x.setting(1, 4, early);
         World.random(x, 0, 0x0a0b0c0d0e0f1011L, 0x1212121212121212L);
         World.random(x, 1, 0x1a1b1c1d1e1f1011L, 0x2212121212121212L);
+        x.tick(500);
         int c = x.connection(0, 1);
         World.carry(x, c);
         Check.due("a TICKET", x.ticket(0, 0, 5), 1);
@@ -559,6 +576,16 @@ public final class LinesTest {
         // no early bytes were given
         c = x.connection(0, 1);
         Check.due("no key", x.key(c, 0, 0), 0);
+        SecureLines one = withTicket(1);
+        c = one.connection(0, 1);
+        one.bring(c, 0, 8000);
+        Check.due("none were given: not taken", one.told(c, 1, 5), 0);
+        one.feed(1, 7);
+        one.early(0);
+        c = one.connection(0, 1);
+        one.bring(c, 0, 8000);
+        Check.due("one byte of one", one.told(c, 1, 5), 1);
+        Check.due("heard", one.hear(c, 1), 7);
         // the first is no TICKET that allows as many
         SecureLines y = withTicket(30);
         Own.feed(y, new byte[31]);
@@ -767,6 +794,29 @@ public final class LinesTest {
             Check.due("used by LIFE", x.told(c, 1, 4), age == 60 ? 2 : 0);
             Check.due("open", x.told(c, 0, 0) + x.told(c, 1, 0), 2);
         }
+        // of 20 that are in the BOOK the eldest goes
+        SecureLines book = World.both();
+        book.setting(1, 2, 2);
+        Peer giver = World.toServer(book);
+        giver.send(1, giver.helloBody(5, Peer.usualFields(1, 9), Peer.none()));
+        giver.takeAnswer(9, 0);
+        giver.expect(8);
+        giver.expect(11);
+        giver.expect(15);
+        giver.takeServerEnd();
+        giver.endAsClient();
+        long[] ids = {Own.secretOf(giver.expect(4), 8), Own.secretOf(giver.expect(4), 8)};
+        book.setting(1, 2, 3);
+        for (int i = 0; i < 6; i++) {
+            World.carry(book, book.connection(0, 1));
+        }
+        TreeMap<Integer, byte[]> fields = Peer.usualFields(1, 9);
+        fields.put(7, Own.bytes(2));
+        Check.due("20 were given: the first", takenUp(book, giver, ids[0], 0, fields), 2);
+        book.setting(1, 2, 1);
+        World.carry(book, book.connection(0, 1));
+        Check.due("21 were given: the first", takenUp(book, giver, ids[0], 0, fields), 0);
+        Check.due("21 were given: the second", takenUp(book, giver, ids[1], 1, fields), 2);
         // the eldest of 20 goes
         SecureLines x = World.both();
         x.setting(1, 2, 3);
@@ -794,6 +844,14 @@ public final class LinesTest {
         x.forget(0, 0);
         x.forget(0, 0);
         Check.due("one is left", x.forget(0, 0), 0);
+    }
+
+    /** What is used when a TICKET that the giver got is told to end 1. */
+    private static int takenUp(SecureLines x, Peer giver, long id, int k, TreeMap<Integer, byte[]> fields) {
+        Peer taker = World.toServer(x);
+        long secret = Own.derived(0, giver.next, 't', k);
+        taker.send(1, taker.helloBody(5, fields, Peer.of(new Peer.Offered(Own.secret(id), 0, secret, 0))));
+        return taker.told(4);
     }
 
     private static int[] opened(SecureLines x) {
@@ -966,6 +1024,22 @@ public final class LinesTest {
         x.feed(1, 5);
         Check.due("give", x.give(c, 1), -3);
         Check.due("not taken", x.cut(0), 1);
+        // exactly 2001 wait
+        SecureLines w = World.both();
+        int d = opened(w)[0];
+        for (int i = 0; i < 3; i++) {
+            Own.feed(w, new byte[i < 2 ? 800 : 281]);
+            w.say(d, 1);
+        }
+        Check.due("2001 wait", w.line(d, 1, -1), 2001);
+        Check.due("say", w.say(d, 1), -3);
+        Check.due("give", w.give(d, 1), -3);
+        for (int i = 0; i < 125; i++) {
+            w.renew(d, 0, 1);
+        }
+        Check.due("bring", w.bring(d, 0, 8000), 2000);
+        Check.due("4001 wait", w.line(d, 1, -1), 4001);
+        Check.due("bring", w.bring(d, 0, 1), -3);
         // more than 4000 wait on the other one's line, then bring
         Peer peer = World.toServer(x);
         peer.send(1, peer.helloBody(5, Peer.usualFields(1, 9), Peer.none()));
@@ -1002,6 +1076,15 @@ public final class LinesTest {
         Check.due("OUT", z.out(-1), 800);
         Check.due("the rest", z.line(big.c, 1, -1), waits - 800);
         Check.due("bring fewer", z.bring(big.c, 1, 5), 5);
+        Peer whole = World.toServer(z);
+        whole.send(1, whole.helloBody(5, Peer.usualFields(1, 9), Peer.none()));
+        whole.takeAnswer(9, 0);
+        whole.expect(8);
+        byte[] wideOne = new Cert("srv", "root", World.SERVER).names(wide, wide, wide, wide).by(World.ROOT);
+        Check.that("a CHAIN of many records", Arrays.equals(whole.expect(11),
+            Peer.chain(new byte[0], wideOne, wideOne, wideOne, wideOne)));
+        whole.expect(15);
+        whole.takeServerEnd();
     }
 
     private static void exports() {

@@ -195,6 +195,19 @@ public final class OfficeTest {
         Check.due("PENDING", x.issue(0, 1, y, 5), -2);
         ready(x, 1, "e");
         Check.due("any POINT", x.issue(0, 1, 2, 1000000), 2);
+        int[] times = {127, 128, 32767, 32768, 8388607, 8388608};
+        for (int time : times) {
+            SecureLines v = with();
+            order(v, 0, "q");
+            ready(v, 0, "q");
+            for (int left = time; left > 0; left -= Math.min(left, 1000000)) {
+                v.tick(Math.min(left, 1000000));
+            }
+            Check.due("issue", v.issue(0, 0, Own.P - 2, 1), 1);
+            byte[] want = pointed(new Cert("q", "of.fice", 55).serial(1).times(time, time + 1).uses(3).names("q"), Own.P - 2);
+            v.text(1, 11, 0);
+            Check.that("its bytes at " + time, Arrays.equals(Own.out(v), want));
+        }
         due = pointed(new Cert("e", "of.fice", 55).serial(2).times(7, 1000007).uses(3).names("e"), 2);
         x.text(2, 11, 0);
         Check.that("its bytes", Arrays.equals(Own.out(x), due));

@@ -121,6 +121,8 @@ public final class PathsTest {
         Check.due("USES 2 for 1", judge(with(root().by(ROOT), mid().by(ROOT), leaf().uses(14).by(MID)), 5, 1, 2, 1, 0), 5);
         Check.due("USES 1 for 2", judge(with(root().by(ROOT), mid().by(ROOT), leaf().uses(13).by(MID)), 5, 2, 2, 1, 0), 5);
         Check.due("USES 8 for 0", judge(with(root().by(ROOT), mid().by(ROOT), leaf().uses(8).by(MID)), 5, 0, 2, 1, 0), 0);
+        Check.due("an issuer's USES 4", judge(with(root().uses(4).by(ROOT), mid().uses(4).by(ROOT), leaf().by(MID)),
+            5, 0, 2, 1, 0), 0);
         Check.due("an issuer's USES", judge(with(root().by(ROOT), mid().uses(11).by(ROOT), leaf().by(MID)),
             5, 0, 2, 1, 0), 105);
         Check.due("an ANCHOR's USES", judge(with(root().uses(11).by(ROOT), mid().by(ROOT), leaf().by(MID)),
@@ -153,6 +155,9 @@ public final class PathsTest {
         Check.due("PERMITTED under the NAME", named(root(), mid().permitted("x.a.b.c"), leaf()), 107);
         Check.due("one of two PERMITTED", named(root(), mid().permitted("x", "b.c"), leaf()), 0);
         Check.due("one of two NAMES not", named(root(), mid().permitted("b.c"), leaf().names("a.b.c", "d")), 107);
+        Check.due("both NAMES", named(root(), mid().permitted("b.c"), leaf().names("a.b.c", "d.b.c")), 0);
+        Check.due("the second NAME EXCLUDED", named(root(), mid().excluded("b.c"), leaf().names("d", "a.b.c")), 107);
+        Check.due("the second EXCLUDED", named(root(), mid().excluded("x", "b.c"), leaf()), 107);
         Check.due("no NAMES", named(root(), mid().permitted("x"), new Cert("leaf", "mid", LEAF)), 0);
         Check.due("EXCLUDED", named(root(), mid().excluded("b.c"), leaf()), 107);
         Check.due("EXCLUDED another", named(root(), mid().excluded("b.d", "x.a.b.c"), leaf()), 0);
@@ -177,12 +182,14 @@ public final class PathsTest {
 
     private static void standings() {
         SecureLines x = with(root().by(ROOT), mid().by(ROOT), leaf().by(MID), new Cert("other", "o", MID).uses(4).by(1),
-            new Cert("else", "o", MID).uses(8).by(1));
-        Check.due("status(5)", x.status(5, 0, 0), -1);
-        Check.due("status(0, 5)", x.status(0, 5, 0), -1);
+            new Cert("else", "o", MID).uses(8).by(1), new Cert("more", "o", MID).uses(7).by(1));
+        Check.due("status(6)", x.status(6, 0, 0), -1);
+        Check.due("status(0, 6)", x.status(0, 6, 0), -1);
         Check.due("status(-1)", x.status(-1, 0, 0), -1);
         Check.due("status(0, -1)", x.status(0, -1, 0), -1);
         Check.due("UNKNOWN", x.status(2, 1, 50), 2);
+        list(x, Cert.list("mid", 0, 10, 90, 1, MID, 3));
+        Check.due("on a LIST of number 0", x.status(2, 1, 50), 1);
         list(x, Cert.list("mid", 1, 10, 90, 1, MID, 2, 4));
         Check.due("not on a LIST", x.status(2, 1, 50), 0);
         Check.due("at its FROM", x.status(2, 1, 10), 0);
@@ -190,6 +197,7 @@ public final class PathsTest {
         Check.due("at its TO", x.status(2, 1, 90), 0);
         Check.due("behind it", x.status(2, 1, 91), 2);
         Check.due("by one without use 8", x.status(2, 3, 50), 2);
+        Check.due("by one with use 1", x.status(2, 5, 50), 2);
         Check.due("whose SUBJECT does not count", x.status(2, 4, 50), 0);
         Check.due("by another KEY", x.status(2, 0, 50), 2);
         Check.due("of another ISSUER", x.status(1, 1, 50), 2);
@@ -197,6 +205,7 @@ public final class PathsTest {
         Check.due("the greater number", x.status(2, 1, 50), 1);
         Check.due("only those of the time", x.status(2, 1, 61), 0);
         list(x, Cert.list("mid", 1, 10, 90, 1, MID, 3));
+        list(x, Cert.list("mid", 0, 10, 90, 1, MID));
         Check.due("of like ones the last", x.status(2, 1, 61), 1);
         Check.due("the greater number stays", x.status(2, 1, 50), 1);
         list(x, Cert.list("mid", 9, 10, 90, 1, LEAF));
@@ -264,6 +273,8 @@ public final class PathsTest {
         Check.due("step(0)", x.step(0), 0);
         x.trust(0, 2);
         Check.due("fewer steps first", x.build(0, 2, 5000, 0), 1);
+        Check.due("signed by the key of another name", with(root().by(ROOT), new Cert("x", "other", 5).by(ROOT))
+            .build(0, 1, 5, 0), 0);
         Check.due("a use that lacks", with(root().by(ROOT), mid().uses(4).by(ROOT)).build(0, 1, 5, 1), 0);
         byte[][] line = new byte[5][];
         for (int i = 0; i < 5; i++) {

@@ -210,6 +210,9 @@ public final class ServerAlertsTest {
         helloBody("behind SHARED", 47, r, v, Peer.field(10, Own.bytes(1, 16), new byte[28]), Peer.field(11));
         helloBody("behind SHARED, cut", 47, r, v, Peer.field(10, Own.bytes(1, 16), new byte[28]), Own.bytes(99));
         helloBody("others do not rise", 47, r, v, Peer.field(50), Peer.field(49));
+        helloBody("an id of 1", 109, r, v, Peer.field(10, Own.bytes(1, 1, 7, 0, 0, 0, 0), new byte[8]));
+        helloBody("another of 600 bytes", 109, r, v, Peer.field(11, new byte[600]));
+        helloBody("one of 600 bytes", 109, r, v, Peer.field(5, new byte[600]));
         helloBody("others are passed over", 109, r, Peer.field(0), v, Peer.field(11), Peer.field(255, new byte[100]));
     }
 
@@ -276,6 +279,12 @@ public final class ServerAlertsTest {
         return x;
     }
 
+    private static SecureLines shortOnes() {
+        SecureLines x = World.both();
+        World.share(x, 1, "y", 0, 6);
+        return x;
+    }
+
     private static final Peer.Offered GOOD = new Peer.Offered(Own.text("ab"), 0, 6, 0);
     private static final Peer.Offered BAD = new Peer.Offered(Own.text("ab"), 0, 7, 0);
     private static final Peer.Offered STRANGE = new Peer.Offered(Own.text("abc"), 0, 6, 0);
@@ -288,6 +297,10 @@ public final class ServerAlertsTest {
         Peer right = hello("the first known counts", 0, sharing(), Peer.of(STRANGE, GOOD, BAD), f -> f.put(7, Own.bytes(2)));
         Check.due("used", right.told(4), 1);
         Check.due("CHOSEN", right.takeAnswer(9, 6).get(10)[0], 1);
+        Peer.Offered short1 = new Peer.Offered(Own.text("x"), 0, 6, 0);
+        Peer second = hello("two ids of one byte", 0, shortOnes(), Peer.of(short1,
+            new Peer.Offered(Own.text("y"), 0, 6, 0)), f -> f.put(7, Own.bytes(2)));
+        Check.due("the second is used", second.takeAnswer(9, 6).get(10)[0], 1);
         hello("not known: any BINDER", 0, sharing(), Peer.of(STRANGE), f -> f.put(7, Own.bytes(2)));
         hello("51 ahead of no GROUPS", 51, sharing(), Peer.of(BAD), f -> {
             f.put(7, Own.bytes(2));
@@ -418,6 +431,17 @@ public final class ServerAlertsTest {
         peer.transcript = new byte[0];
         peer.send(1, peer.helloBody(5, fields, Peer.of(GOOD)));
         Check.due("a BINDER of this HELLO alone", peer.told(6), 51);
+        // a SHARED secret of the first HELLO alone is not used then
+        fields = Peer.usualFields(1, 9);
+        fields.put(7, Own.bytes(2));
+        peer = retried(sharing(), fields, Peer.of(GOOD));
+        peer.send(1, peer.helloBody(5, fields, Peer.none()));
+        Check.due("none is used", peer.told(4) * 10 + peer.told(3), 1);
+        fields = Peer.usualFields(1, 9);
+        fields.put(7, Own.bytes(2));
+        peer = retried(sharing(), fields, Peer.none());
+        peer.send(1, peer.helloBody(5, fields, Peer.of(GOOD)));
+        Check.due("one is used, without SCHEME", peer.told(4) * 10 + peer.told(3), 10);
         // the offers by then do not count, but the scheme does
         fields = Peer.usualFields(1, 9);
         SecureLines x = World.both();
@@ -634,6 +658,7 @@ public final class ServerAlertsTest {
         chain("no such ANCHOR", 1, 48, Peer.chain(none, new Cert("cli", "other", 31).by(World.ROOT)));
         chain("another SIGNATURE", 1, 42, Peer.chain(none, new Cert("cli", "root", 31).by(31)));
         chain("a server's USES", 1, 46, Peer.chain(none, new Cert("cli", "root", 31).uses(1).by(World.ROOT)));
+        chain("a FAULT in a NAME", 1, 42, Peer.chain(none, new Cert("cl!", "root", 31).by(World.ROOT)));
         chain("over", 1, 45, Peer.chain(none, new Cert("cli", "root", 31).times(3, 9).by(World.ROOT)));
         // n = 0: then no PROOF
         Peer peer = asked(1);

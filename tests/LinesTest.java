@@ -53,6 +53,8 @@ public final class LinesTest {
         Check.due("line c -1", x.line(-1, 0, -1), -1);
         Check.due("alter", x.alter(1, 0, 0, 255), 22 ^ 255);
         Check.due("alter", x.alter(1, 0, 0, 255), 22);
+        Check.due("alter", x.alter(1, 0, 1, 1), 1);
+        Check.due("alter", x.alter(1, 0, 1, 1), 0);
         Check.due("alter mask 0", x.alter(1, 0, 0, 0), -1);
         Check.due("alter mask 256", x.alter(1, 0, 0, 256), -1);
         Check.due("alter i 43", x.alter(1, 0, 43, 1), -1);
@@ -1024,6 +1026,16 @@ public final class LinesTest {
         x.feed(1, 5);
         Check.due("give", x.give(c, 1), -3);
         Check.due("not taken", x.cut(0), 1);
+        // the only ANSWER that is held is the STAPLE
+        SecureLines v = World.both();
+        byte[] staple = Cert.answer("root", 2, 0, 0, 50, 1, World.ROOT);
+        Own.feed(v, staple);
+        v.answer();
+        Peer stapled = World.toServer(v);
+        stapled.send(1, stapled.helloBody(5, Peer.usualFields(1, 9), Peer.none()));
+        stapled.takeAnswer(9, 0);
+        stapled.expect(8);
+        Check.that("STAPLE", Arrays.equals(stapled.expect(11), Peer.chain(staple, World.server())));
         // exactly 2001 wait
         SecureLines w = World.both();
         int d = opened(w)[0];

@@ -12,6 +12,7 @@ public final class OfficeTest {
         challenges();
         issues();
         revocations();
+        numbers();
         answers();
         rooms();
         onPaths();
@@ -71,7 +72,7 @@ public final class OfficeTest {
     private static void orders() {
         SecureLines x = with();
         Check.due("nothing", order(x, 0, ""), -2);
-        String[] wrong = {",", "a,", ",a", "a,,b", "a,b,c,d", "a,a", "a,b,a", "*.a", "A", "a b", "a.,b", "*.a.b,*.a.b", "*"};
+        String[] wrong = {",", "a,", ",a", "a,,b", "a,b,c,d", "a,a", "a,b,a", "a,b,b", "*.a", "A", "a b", "a.,b", "*.a.b,*.a.b", "*"};
         for (String patterns : wrong) {
             Check.due("order " + patterns, order(x, 0, patterns), -2);
             Check.due("not taken", x.cut(0), patterns.length());
@@ -129,10 +130,15 @@ public final class OfficeTest {
         order(x, 0, "*.b.c,b.c,d");
         order(x, 0, "e,f");
         Check.due("no office", x.challenge(1, 0, 0), -1);
-        Check.due("no order", x.challenge(0, 3, 0), -1);
+        Check.due("order 3", x.challenge(0, 3, 0), -1);
+        Check.due("no order", x.challenge(0, 4, 0), -1);
         Check.due("order -1", x.challenge(0, -1, 0), -1);
         Check.due("k 1", x.challenge(0, 0, 1), -1);
         Check.due("k -1", x.challenge(0, 0, -1), -1);
+        order(x, 0, "g,h");
+        zone(x, "h", due(100, 8));
+        Check.due("the second first", x.challenge(0, 3, 1), 1);
+        Check.due("PENDING", x.ordered(0, 3, 0), 0);
         zone(x, "a", due(101, 1));
         Check.due("met", x.challenge(0, 0, 0), 1);
         Check.due("READY", x.ordered(0, 0, 0), 1);
@@ -272,6 +278,30 @@ public final class OfficeTest {
         Check.due("FULL", x.publish(0, 5), -3);
         Check.due("BAD ahead of FULL", x.publish(0, 0), -1);
         Check.due("status", x.status(2, 0, 2), 1);
+    }
+
+    /** The numbers of an office's LISTS, by LISTS of its key that are held beside them. */
+    private static void numbers() {
+        SecureLines x = ready("a");
+        x.issue(0, 0, Own.keyPoint(55), 9);
+        Own.feed(x, Cert.list("of.fice", 1, 0, 9, 1, KEY, 1));
+        x.list();
+        x.publish(0, 5);
+        Check.due("the first is 1, and came last", x.status(1, 0, 0), 0);
+        Own.feed(x, Cert.list("of.fice", 2, 0, 9, 1, KEY, 1));
+        x.list();
+        Check.due("the first is below 2", x.status(1, 0, 0), 1);
+        x.publish(0, 5);
+        Check.due("the second is 2, and came last", x.status(1, 0, 0), 0);
+        Own.feed(x, Cert.list("of.fice", 4, 0, 9, 1, KEY, 1));
+        x.list();
+        x.publish(0, 5);
+        Check.due("the third is below 4", x.status(1, 0, 0), 1);
+        for (int i = 6; i < 12; i++) {
+            Own.feed(x, Cert.list("of.fice", 0, 0, 9, 1, KEY));
+            x.list();
+        }
+        Check.due("FULL", x.publish(0, 5), -3);
     }
 
     private static void answers() {

@@ -73,6 +73,13 @@ public final class LinesTest {
         Check.due("give side 2", x.give(0, 2), -1);
         Check.due("give c 12", x.give(12, 0), -1);
         Check.due("told of the caller", x.told(0, 0, 0), -1);
+        Check.due("hear as the caller", x.hear(0, 0), -10);
+        Check.due("key of the caller", x.key(0, 0, 0), 0);
+        Check.due("key of the caller", x.key(0, 0, 7), 0);
+        Check.due("key of the caller, which 8", x.key(0, 0, 8), -1);
+        x.feed(1, 1);
+        Check.due("export of the caller", x.export(0, 0), 0);
+        Check.due("taken", x.cut(0), 0);
         Check.due("told what 15", x.told(0, 1, 15), -1);
         Check.due("told what -1", x.told(0, 1, -1), -1);
         Check.due("key which 8", x.key(0, 1, 8), -1);

@@ -12,6 +12,8 @@ public final class SecureLines {
     private static final int ZONE_MOST = 16;
     private static final int LOGS_MOST = 4;
     private static final int ENTRIES_MOST = 64;
+    /** More HEADS than a way down among 64 entries passes. */
+    private static final int PROOF_MOST = 7;
     private static final int MINUTES_MOST = 1000000;
     private static final int TIME_MOST = 2000000000;
 
@@ -33,6 +35,7 @@ public final class SecureLines {
     private final long[][] logs = new long[LOGS_MOST][ENTRIES_MOST];
     private final int[] logSizes = new int[LOGS_MOST];
     private int logCount;
+    /** Ahead the HEADS of which one is made, from 8 on those that were found for a proof. */
     private final long[] knots = new long[16];
 
     public SecureLines() {
@@ -571,8 +574,11 @@ public final class SecureLines {
     }
 
     public int hear(int c, int side) {
+        if (!isSide(c, side)) {
+            return BAD;
+        }
         Side by = sideOf(c, side);
-        return by == null ? BAD : by.nextHeard();
+        return by == null ? Side.NOTHING_HEARD : by.nextHeard();
     }
 
     public int close(int c, int side) {
@@ -614,20 +620,20 @@ public final class SecureLines {
     }
 
     public long key(int c, int side, int which) {
-        Side of = sideOf(c, side);
-        if (of == null || which < 0 || which > 7) {
+        if (!isSide(c, side) || which < 0 || which > 7) {
             return BAD;
         }
-        return which == 7 ? of.digestNow() : of.keys[which];
+        Side of = sideOf(c, side);
+        return of == null ? 0 : which == 7 ? of.digestNow() : of.keys[which];
     }
 
     public long export(int c, int side) {
-        Side of = sideOf(c, side);
-        if (of == null) {
+        if (!isSide(c, side)) {
             return BAD;
         }
+        Side of = sideOf(c, side);
         long got = 0;
-        if (of.exports) {
+        if (of != null && of.exports) {
             int h = Mill.hashOf(of.told[Side.SUITE]);
             long what = house.mill.digestOf(h, tape.bytes, 0, tape.size);
             got = house.mill.derive(h, of.keys[Side.EXPORT], 'y', what);
@@ -790,7 +796,7 @@ public final class SecureLines {
         int count = 0;
         int from = 0;
         int place = i;
-        for (int size = n; size > 1; count++) {
+        for (int size = n; size > 1 && count < PROOF_MOST; count++) {
             int k = halfOf(size);
             boolean left = place < k;
             knots[8 + count] = left ? headOf(logs[l], from + k, size - k) : headOf(logs[l], from, k);
@@ -811,7 +817,7 @@ public final class SecureLines {
         int rest = m;
         int size = n;
         boolean whole = true;
-        for (; size > rest; count++) {
+        for (; size > rest && count < PROOF_MOST; count++) {
             int k = halfOf(size);
             boolean left = rest <= k;
             knots[8 + count] = left ? headOf(logs[l], from + k, size - k) : headOf(logs[l], from, k);
@@ -843,7 +849,7 @@ public final class SecureLines {
         int turns = 0;
         int count = 0;
         int place = i;
-        for (int size = n; size > 1; count++) {
+        for (int size = n; size > 1 && count < PROOF_MOST; count++) {
             int k = halfOf(size);
             boolean left = place < k;
             turns |= left ? 1 << count : 0;
@@ -868,7 +874,7 @@ public final class SecureLines {
         int turns = 0;
         int count = 0;
         int rest = m;
-        for (int size = n; size > rest; count++) {
+        for (int size = n; size > rest && count < PROOF_MOST; count++) {
             int k = halfOf(size);
             boolean left = rest <= k;
             turns |= left ? 1 << count : 0;
@@ -924,7 +930,7 @@ public final class SecureLines {
         int open = 0;
         for (int i = 0; i < n; i++) {
             long got = leafOf(entries[from + i]);
-            for (int bits = i; (bits & 1) == 1; bits >>= 1) {
+            for (int bits = i; (bits & 1) == 1 && open > 0; bits >>= 1) {
                 open--;
                 got = knotOf(knots[open], got);
             }
@@ -2390,6 +2396,7 @@ public final class SecureLines {
         static final int EXPORT = 5;
         static final int NEXT = 6;
 
+        static final int NOTHING_HEARD = -10;
         static final int GIVE_MOST = 2000;
         static final int BRING_MOST = 4000;
         private static final int PIECE = 200;
@@ -2455,7 +2462,7 @@ public final class SecureLines {
 
         int nextHeard() {
             if (heard.size == 0) {
-                return told[OTHER_CLOSED] == 1 ? -11 : told[STATE] == 2 ? -12 : -10;
+                return told[OTHER_CLOSED] == 1 ? -11 : told[STATE] == 2 ? -12 : NOTHING_HEARD;
             }
             int got = heard.at(0);
             heard.drop(1);

@@ -9,7 +9,7 @@ import java.util.List;
 import java.util.Map;
 import java.util.Set;
 
-/** LANGUAGE.md, rules 8 and 11: no recursion, and calls at most eight deep, by the compiled classes. */
+/** LANGUAGE.md, rules 8 and 11: no recursion, and calls (the library's too) at most eight deep, by the compiled classes. */
 public final class DepthTest {
     private static final Map<String, Set<String>> CALLS = new HashMap<>();
     private static final Map<String, String> ABOVE = new HashMap<>();
@@ -44,6 +44,8 @@ public final class DepthTest {
         Check.that("no recursion: " + method, open.add(method));
         int below = 0;
         for (String called : CALLS.getOrDefault(method, Set.of())) {
+            boolean library = !called.startsWith("SecureLines") && !called.contains("<init>");
+            below = Math.max(below, library ? 1 : 0);
             for (String one : meant(called)) {
                 below = Math.max(below, open.contains(one) ? 99 : depth(one, open));
             }

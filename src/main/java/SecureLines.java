@@ -1042,7 +1042,8 @@ public final class SecureLines {
                 put(n);
             } else {
                 put(130);
-                putTwo(n);
+                put(n >>> 8);
+                put(n);
             }
         }
 

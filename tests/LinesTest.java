@@ -72,14 +72,8 @@ public final class LinesTest {
         Check.due("give to the caller", x.give(0, 0), -2);
         Check.due("give side 2", x.give(0, 2), -1);
         Check.due("give c 12", x.give(12, 0), -1);
-        Check.due("told of the caller", x.told(0, 0, 0), -1);
-        Check.due("hear as the caller", x.hear(0, 0), -10);
-        Check.due("key of the caller", x.key(0, 0, 0), 0);
-        Check.due("key of the caller", x.key(0, 0, 7), 0);
-        Check.due("key of the caller, which 8", x.key(0, 0, 8), -1);
-        x.feed(1, 1);
-        Check.due("export of the caller", x.export(0, 0), 0);
-        Check.due("taken", x.cut(0), 0);
+        isNoneSuch(x, 0, 0);
+        isNoneSuch(x, 1, 1);
         Check.due("told what 15", x.told(0, 1, 15), -1);
         Check.due("told what -1", x.told(0, 1, -1), -1);
         Check.due("key which 8", x.key(0, 1, 8), -1);
@@ -98,6 +92,20 @@ public final class LinesTest {
         Check.due("renew while greeting", x.renew(2, 0, 0), -2);
         Check.due("export while greeting", x.export(2, 0), 0);
         Check.due("hear while greeting", x.hear(2, 0), -10);
+    }
+
+    /** The caller's side is asked for nothing; a refused export keeps THE TAPE. */
+    private static void isNoneSuch(SecureLines x, int c, int side) {
+        for (int what = 0; what < 15; what++) {
+            Check.due("told of the caller", x.told(c, side, what), -1);
+        }
+        for (int which = 0; which < 9; which++) {
+            Check.due("key of the caller", x.key(c, side, which), -1);
+        }
+        Check.due("hear of the caller", x.hear(c, side), -1);
+        x.feed(2, 0x0102);
+        Check.due("export of the caller", x.export(c, side), -1);
+        Check.due("THE TAPE is kept", x.cut(0), 2);
     }
 
     private static void withCertificates() {

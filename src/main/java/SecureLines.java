@@ -574,11 +574,8 @@ public final class SecureLines {
     }
 
     public int hear(int c, int side) {
-        if (!isSide(c, side)) {
-            return BAD;
-        }
         Side by = sideOf(c, side);
-        return by == null ? Side.NOTHING_HEARD : by.nextHeard();
+        return by == null ? BAD : by.nextHeard();
     }
 
     public int close(int c, int side) {
@@ -620,20 +617,20 @@ public final class SecureLines {
     }
 
     public long key(int c, int side, int which) {
-        if (!isSide(c, side) || which < 0 || which > 7) {
+        Side of = sideOf(c, side);
+        if (of == null || which < 0 || which > 7) {
             return BAD;
         }
-        Side of = sideOf(c, side);
-        return of == null ? 0 : which == 7 ? of.digestNow() : of.keys[which];
+        return which == 7 ? of.digestNow() : of.keys[which];
     }
 
     public long export(int c, int side) {
-        if (!isSide(c, side)) {
+        Side of = sideOf(c, side);
+        if (of == null) {
             return BAD;
         }
-        Side of = sideOf(c, side);
         long got = 0;
-        if (of != null && of.exports) {
+        if (of.exports) {
             int h = Mill.hashOf(of.told[Side.SUITE]);
             long what = house.mill.digestOf(h, tape.bytes, 0, tape.size);
             got = house.mill.derive(h, of.keys[Side.EXPORT], 'y', what);

@@ -337,6 +337,14 @@ public final class OfficeTest {
         Check.due("BAD ahead of FULL", x.issue(0, 0, 1, 9), -1);
         order(x, 0, "b");
         Check.due("NO ahead of FULL", x.issue(0, 1, Own.keyPoint(55), 9), -2);
+        // also when what would be ISSUED is one of the 30
+        SecureLines w = ready("d");
+        Own.hold(w, new Cert("d", "of.fice", 55).serial(1).times(0, 9).uses(3).names("d").by(KEY));
+        for (int i = 2; i < 30; i++) {
+            Own.hold(w, new Cert("n" + i, "n", 5).by(5));
+        }
+        Check.due("30 are held, the same bytes", w.issue(0, 0, Own.keyPoint(55), 9), -3);
+        Check.due("still READY", w.ordered(0, 0, 0), 1);
     }
 
     /** What an office gives is good on a PATH, and its LISTS and ANSWERS are those of its CERTIFICATE. */

@@ -3789,6 +3789,9 @@ public final class SecureLines {
             if (states[order] != READY) {
                 return NO;
             }
+            if (house.paperCount >= House.CERTIFICATES_MOST) {
+                return FULL;
+            }
             int got = house.hold(Paper.CERTIFICATE, sealed(certificateFor(order, y, minutes)));
             if (got >= 0) {
                 serialCount++;

@@ -31,6 +31,13 @@ final class Own {
         return got;
     }
 
+    /** So many bytes of one value. */
+    static byte[] rowOf(int n, int value) {
+        byte[] got = new byte[n];
+        java.util.Arrays.fill(got, (byte) value);
+        return got;
+    }
+
     static byte[] text(String signs) {
         byte[] got = new byte[signs.length()];
         for (int i = 0; i < got.length; i++) {

@@ -51,6 +51,28 @@ final class World {
         x.random(e);
     }
 
+    /** So many bytes come behind an empty TAPE, by few calls; OUT is another one then. */
+    static byte[] tape(SecureLines x, int n) {
+        int piece = x.text(1, 11, 0);
+        byte[] one = Own.out(x);
+        byte[] got = {};
+        while (got.length + piece <= n) {
+            x.again();
+            got = Own.cat(got, one);
+        }
+        byte[] rest = Own.rowOf(n - got.length, 0x5a);
+        Own.feed(x, rest);
+        return Own.cat(got, rest);
+    }
+
+    /** Says so many bytes; they need not be one TAPE. */
+    static void say(SecureLines x, int c, int side, int n) {
+        for (int left = n; left > 0; left -= 800) {
+            tape(x, Math.min(left, 800));
+            Check.due("say", x.say(c, side), Math.min(left, 800));
+        }
+    }
+
     /** Brings all that waits, from one to the other, till nothing waits. */
     static void carry(SecureLines x, int c) {
         for (int turn = 0; turn < 20; turn++) {

@@ -401,16 +401,8 @@ public final class BoundsFormsTest {
         }
     }
 
-    /** A CERTIFICATE of so many bytes, by the length of one NAME more. */
     private static byte[] certificateOf(int n) {
-        String wide = FORTY;
-        for (int size = 1; size <= 40; size++) {
-            byte[] got = new Cert(wide, wide, 9).names(wide, wide, wide, wide).permitted(wide, wide, FORTY.substring(40 - size)).by(1);
-            if (got.length == n) {
-                return got;
-            }
-        }
-        return new byte[0];
+        return Cert.ofSize(n, FORTY, FORTY, 9, 1);
     }
 
     /** "CERTIFICATES that are held (30 ..) are numbered from 0; equal bytes are one" - "also when there is no room". */

@@ -1079,22 +1079,10 @@ public final class BoundsServerTest {
         chain("a byte more", 1, 42, Peer.chain(NONE, Own.cat(one, new byte[1])));
         chain("the second is none", 1, 42, Peer.chain(NONE, one, Own.bytes(1)));
         for (int size = 399; size <= 402; size++) {
-            byte[] got = clientOf(size);
+            byte[] got = Cert.ofSize(size, "cli", "root", World.CLIENT, World.ROOT);
             Check.due("its length", got.length, size);
             chain("of " + size, 1, size <= 400 ? 0 : 42, Peer.chain(NONE, got));
         }
-    }
-
-    /** A client's CERTIFICATE of so many bytes. */
-    private static byte[] clientOf(int size) {
-        for (int n = 1; n <= 40; n++) {
-            byte[] got = new Cert("cli", "root", World.CLIENT).names(FORTY, FORTY, FORTY, FORTY).permitted(FORTY, FORTY, FORTY, FORTY)
-                .excluded(FORTY.substring(40 - n)).by(World.ROOT);
-            if (got.length == size) {
-                return got;
-            }
-        }
-        return NONE;
     }
 
     /** "of a client 116 n = 0 when SETTING 1 is 2; 50 a STAPLE of a client". */

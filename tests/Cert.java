@@ -112,6 +112,25 @@ final class Cert {
         return Own.signed(inner(), scheme, key);
     }
 
+    /** One of so many bytes, by how many names it has and how long the last is; no bytes if there is none. */
+    static byte[] ofSize(int size, String subject, String issuer, int key, int by) {
+        for (int count = 0; count < 12; count++) {
+            for (int n = 1; n <= 40; n++) {
+                String[][] rows = new String[3][0];
+                for (int i = 0; i <= count; i++) {
+                    String[] row = java.util.Arrays.copyOf(rows[i / 4], i % 4 + 1);
+                    row[i % 4] = "a".repeat(i == count ? n : 40);
+                    rows[i / 4] = row;
+                }
+                byte[] got = new Cert(subject, issuer, key).serial(9).names(rows[0]).permitted(rows[1]).excluded(rows[2]).by(by);
+                if (got.length == size) {
+                    return got;
+                }
+            }
+        }
+        return new byte[0];
+    }
+
     static byte[] list(String issuer, int number, int from, int to, int scheme, int key, int... serials) {
         byte[] rows = {};
         for (int serial : serials) {

@@ -410,6 +410,19 @@ public final class BoundsFunctionsTest {
         }
     }
 
+    /** The greatest y, p - 2, is the POINT of a KEY: its SIGNATURE FITS. */
+    static void promise16_yIsPMinus2() {
+        SecureLines x = new SecureLines();
+        int key = 536870895;
+        Check.due("its POINT", x.keyPoint(key), Own.P - 2);
+        for (int n = 0; n < 20; n++) {
+            Own.feed(x, Own.rowOf(n, 3));
+            long signature = x.sign(1, key);
+            Own.feed(x, Own.rowOf(n, 3));
+            Check.due("it FITS", x.fits(1, Own.P - 2, signature), 1);
+        }
+    }
+
     /** "and y to the q is 1 modulo p": another y does not fit, though all else is so. */
     static void promise16_yToTheQIs1() {
         SecureLines x = new SecureLines();
@@ -449,21 +462,15 @@ public final class BoundsFunctionsTest {
             }
         }
         Check.that("some were looked at", over > 0);
-        // s of 0 and of q - 1: k is found so that s becomes that
-        for (int due : new int[] {0, Own.Q - 1}) {
-            int key = 5;
-            long signature = with0(due, key);
-            Check.due("s " + due + " is looked at as any", x.fits(1, Own.keyPoint(key), signature),
-                Own.fits(1, Own.keyPoint(key), signature) ? 1 : 0);
+        // SIGNATURES of no bytes that were looked for long: e is 0, q - 1, s is 0, q - 1
+        int[][] least = {{5, 0, 136663354}, {6, Own.Q - 1, 669403594}, {7, 442698407, 0}, {5, 59268508, Own.Q - 1}};
+        for (int[] one : least) {
+            long signature = (long) one[1] << 32 | one[2];
+            Check.due("e " + one[1] + ", s " + one[2], x.fits(1, Own.keyPoint(one[0]), signature), 1);
+            Check.due("e " + one[1] + ", s " + one[2] + " of another KEY", x.fits(1, Own.keyPoint(one[0] + 3), signature), 0);
         }
         Check.due("e q", x.fits(1, 4, (long) Own.Q << 32), 0);
         Check.due("s q", x.fits(1, 4, Own.Q), 0);
-    }
-
-    private static long with0(int s, int key) {
-        int y = Own.keyPoint(key);
-        int e = ((int) (Own.digest(0, Own.four(Own.power(4, s, Own.P)), Own.four(y)) >> 32) & Integer.MAX_VALUE) % Own.Q;
-        return (long) e << 32 | s;
     }
 
     /** "modulo q": the first FOUR without its highest bit is above q, and e is less. */

@@ -540,6 +540,18 @@ public final class BoundsOfficeTest {
         Check.due("its second is 2", x.status(1, 0, 0), 0);
     }
 
+    /** "its number (from 1 on)": also when the LIST is held as number 0. */
+    static void promise60_heldAsNumber0() {
+        SecureLines x = ready("a");
+        x.issue(0, 0, POINT, 9);
+        Check.due("the first", x.publish(0, 5), 0);
+        Own.feed(x, Cert.list("of.fice", 2, 0, 9, 1, KEY, 1));
+        x.list();
+        Check.due("a LIST of number 2", x.status(1, 0, 0), 1);
+        Check.due("the second", x.publish(0, 5), 2);
+        Check.due("it has number 2, and came last", x.status(1, 0, 0), 0);
+    }
+
     // ---- 61 respond
 
     /** "BAD, FULL": office, a SERIAL that it gave, minutes; 12 ANSWERS are held. */

@@ -525,6 +525,22 @@ public final class BoundsFormsTest {
         Check.due("a CERTIFICATE", list(x, new Cert("s", "i", 9).by(8)), -9);
     }
 
+    /** "above 400 bytes": a NODE of 400, 401, 800 bytes is no LIST, and no ANSWER; a FAULT in it is told ahead of that. */
+    static void promise20_aboveFourHundred() {
+        int[] sizes = {400, 401, 800};
+        for (int size : sizes) {
+            byte[] row = Own.node(48, Own.node(4, new byte[size - 8]));
+            Check.due("its length", row.length, size);
+            SecureLines x = new SecureLines();
+            Check.due("a LIST of " + size, list(x, row), -9);
+            Check.due("an ANSWER of " + size, answer(x, row), -9);
+            Check.due("a CERTIFICATE of " + size, Own.hold(x, row), -9);
+            row[0] = 49;
+            Check.due("no NODE of " + size, list(x, row), -10);
+            Check.due("no NODE of " + size, answer(x, row), -10);
+        }
+    }
+
     // ---- 21 answer
 
     private static int answer(SecureLines x, byte[] row) {

@@ -562,4 +562,34 @@ public final class BoundsEndsTest {
         Check.due("they are gone", x.told(c, 0, 10), 0);
         Check.due("no key", x.key(c, 0, 0), 0);
     }
+
+    /** "(Early bytes that do not go, or are not taken, are gone.)" */
+    static void promise39_gone() {
+        SecureLines x = World.both();
+        x.feed(3, 7);
+        x.early(0);
+        Check.due("no TICKET: they do not go", x.told(x.connection(0, -1), 0, 10), 0);
+        Stage.ticketed(x, 400);
+        Check.due("with a TICKET: they are gone", x.told(x.connection(0, -1), 0, 10), 0);
+        SecureLines y = World.both();
+        Stage.ticketed(y, 2);
+        y.feed(3, 7);
+        y.early(0);
+        Check.due("it does not allow as many", y.told(y.connection(0, -1), 0, 10), 0);
+        y.forget(0, 0);
+        Stage.ticketed(y, 3);
+        Check.due("they are gone", y.told(y.connection(0, -1), 0, 10), 0);
+        // put, but not taken
+        SecureLines z = World.both();
+        z.setting(1, 4, 400);
+        Stage.open(z);
+        z.setting(1, 4, 0);
+        z.feed(3, 7);
+        z.early(0);
+        int c = Stage.open(z);
+        Check.due("not taken", z.told(c, 1, 5), 0);
+        Check.due("not heard", z.hear(c, 1), -10);
+        z.setting(1, 4, 400);
+        Check.due("they do not go again", z.told(z.connection(0, -1), 0, 10), 0);
+    }
 }

@@ -567,6 +567,21 @@ public final class BoundsLinesTest {
         dueKeys("behind a RETRY with other FIELDS it ENDED", early, 1, 0, 0, 0, 0, 0, 0, 0);
     }
 
+    /** "RETRY: .. it has no key for writing": its key for early bytes is none, and its number 0, till ANSWER. */
+    static void promise50_behindRetryNoKey() {
+        SecureLines x = World.both();
+        Stage.ticketed(x, 400);
+        World.tape(x, 201);
+        x.early(0);
+        Peer peer = World.toClient(x);
+        Check.due("two RECORDS of early bytes", peer.told(10), 2);
+        Check.that("a key for them", peer.key(0) != 0);
+        peer.give(Own.bytes(22, 0, 8, 6, 0, 5, 1, 3, 0, 1, 2));
+        Check.due("no ALERT", peer.told(6), -4);
+        dueKeys("behind RETRY", peer, 0, 0, 0, 0, 0, 0, 0, 1);
+        Check.due("no number", peer.told(10), 0);
+    }
+
     private static void dueKeys(String when, Peer peer, int... due) {
         for (int which = 0; which < 8; which++) {
             Check.due(when + ": key " + which, peer.key(which) != 0 ? 1 : 0, due[which]);

@@ -547,6 +547,28 @@ public final class BoundsClientTest {
         chain("42 the ANCHOR is put behind, and is there", 42, BoundsClientTest::nothing, NONE, World.root(), self);
     }
 
+    /** "48 there is none such": one that is held, but no ANCHOR, or an ANCHOR of another name or of another end. */
+    static void promise41_heldButNoAnchor() {
+        for (int way = 0; way < 4; way++) {
+            SecureLines x = new SecureLines();
+            x.end(0);
+            x.end(0);
+            Own.hold(x, World.root());
+            Own.hold(x, new Cert("roo", "roo", 60).office().by(60));
+            x.trust(1, 0);
+            if (way == 1 || way == 3) {
+                x.trust(0, 1);
+            }
+            if (way >= 2) {
+                x.trust(0, 0);
+            }
+            Peer peer = World.toClient(x);
+            peer.answer(1, 7, -1, 0);
+            peer.send(8);
+            sent("ANCHORS " + way, peer, way >= 2 ? 0 : 48, 11, Peer.chain(NONE, World.server()));
+        }
+    }
+
     /** "the ANCHOR that was told first of those whose SUBJECT is its ISSUER". */
     static void promise41_theAnchorToldFirst() {
         byte[] other = new Cert("root", "root", 60).serial(9).office().by(60);
@@ -627,6 +649,28 @@ public final class BoundsClientTest {
         Check.due("no CERTIFICATE more is held", peer.x.field(3, 0), -1);
     }
 
+    /** An ANSWER and a LIST that are held FIT one that is shown, and no other one by that: neither ahead nor behind. */
+    static void promise28_byOneThatIsShown() {
+        for (int way = 0; way < 4; way++) {
+            SecureLines x = World.both();
+            byte[] mid = new Cert("mid", "root", 22).serial(7).office().by(World.ROOT);
+            byte[] leaf = new Cert("srv", "mid", World.SERVER).serial(8).by(22);
+            Check.due("held", Own.hold(x, leaf), 3);
+            Own.feed(x, (way & 1) == 0 ? Cert.answer("mid", 8, 1, 0, 9, 1, 22) : Cert.list("mid", 1, 0, 9, 1, 22, 8));
+            Check.due("held", (way & 1) == 0 ? x.answer() : x.list(), 0);
+            for (int i = 0; i < 4 && way >= 2; i++) {
+                Check.due("by none that is held, ahead", x.status(3, i, 5), 2);
+            }
+            sent("REVOKED by one that is shown", Stage.begun(x), 44, 11, Peer.chain(NONE, leaf, mid));
+            for (int i = 0; i < 4; i++) {
+                Check.due("by none that is held", x.status(3, i, 5), 2);
+            }
+            byte[] other = new Cert("mid", "root", 23).serial(9).office().by(World.ROOT);
+            sent("another one that is shown", Stage.begun(x), 42, 11, Peer.chain(NONE, leaf, other));
+            sent("the one again", Stage.begun(x), 44, 11, Peer.chain(NONE, leaf, mid));
+        }
+    }
+
     /** "It MEETS a PATTERN, when it is it; or the PATTERN is *. and what is behind the NAME's first LABEL and its point". */
     static void promise41_host() {
         String[][] good = {{"a.b", "a.b"}, {"a", "a"}, {"x.a.b", "*.a.b"}, {"-.a.b", "*.a.b"}, {"x.y.a.b", "*.y.a.b"}, {FORTY, FORTY}};
@@ -638,6 +682,11 @@ public final class BoundsClientTest {
         }
         for (String[] pair : none) {
             chain(pair[0] + " does not meet " + pair[1], 42, x -> host(x, pair[0]), NONE, named(pair[1]));
+        }
+        for (int n = 1; n <= 4; n++) {
+            String[] names = Arrays.copyOf(new String[] {"q", "*.q.q", "r", "s"}, n);
+            byte[] row = new Cert("srv", "root", 21).names(names).permitted("a.b").excluded("a.b").by(World.ROOT);
+            chain("PERMITTED and EXCLUDED are no NAMES, " + n, 42, x -> host(x, "a.b"), NONE, row);
         }
         chain("no NAMES", 42, x -> host(x, "srv"), NONE, new Cert("srv", "root", 21).by(World.ROOT));
         chain("no HOST", 0, BoundsClientTest::nothing, NONE, named("q"));

@@ -66,6 +66,10 @@ public final class BoundsFormsTest {
     static void promise17_lengthsThatAreNone() {
         fault("128", 1, 4, 128);
         fault("128 and bytes", 1, 4, 128, 1, 1);
+        fault("128 and 128 bytes", 1, Own.bytes(4, 128), new byte[128]);
+        fault("131 and 131 bytes", 1, Own.bytes(4, 131), new byte[131]);
+        fault("255 and 255 bytes", 1, Own.bytes(4, 255), new byte[255]);
+        fault("131 and a length of three bytes", 1, Own.bytes(4, 131, 0, 1, 0), new byte[256]);
         for (int first = 131; first < 256; first++) {
             fault("length " + first, 1, 4, first, 0, 0, 0, 0);
         }
@@ -325,6 +329,9 @@ public final class BoundsFormsTest {
                 rows = Own.cat(rows, NAME);
             }
             Check.due("a NUMBER among them", with(Own.node(tag, NAME, ONE)), -9);
+            Check.due("NUMBER 97, whose byte is a sign", with(Own.node(tag, NAME, Own.number('a'))), -9);
+            Check.due("bytes that would be a NAME", with(Own.node(tag, Own.node(4, Own.text("a")))), -9);
+            Check.due("a 48 with a NAME", with(Own.node(tag, Own.node(48, NAME))), -9);
             Check.due("a byte behind", with(Own.node(tag, NAME, Own.bytes(12))), -9);
             Check.due("one beyond", with(Own.node(tag, Own.bytes(12, 2, 'a'))), -9);
             Check.due("an empty NAME", with(Own.node(tag, Own.name(""))), -9);

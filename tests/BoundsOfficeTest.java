@@ -360,6 +360,24 @@ public final class BoundsOfficeTest {
         Check.due("another letter", x.challenge(0, 6, 0), 2);
     }
 
+    /** THE ZONE is empty, or has 16 NAMES, and not this one: it is not met. */
+    static void promise57_theZoneIsEmptyOrFull() {
+        for (int n = 0; n <= 16; n++) {
+            SecureLines x = with();
+            order(x, "a,b");
+            for (int i = 0; i < n; i++) {
+                zone(x, "n" + i, i == 0 ? 0 : Own.derived(0, 100, 'z', 1));
+            }
+            Check.due("not among " + n, x.challenge(0, 0, 0), 2);
+            SecureLines y = with();
+            order(y, "a,b");
+            for (int i = 0; i < n; i++) {
+                zone(y, i == n - 1 ? "b" : "n" + i, Own.derived(0, 100, 'z', 2));
+            }
+            Check.due("the last of " + n, y.challenge(0, 0, 1), n > 0 ? 1 : 2);
+        }
+    }
+
     // ---- 58 issue
 
     /** "A READY ORDER, a POINT (2 .. p - 2 of SCHEMES), so many minutes (1 .. 1000000)"; "BAD". */

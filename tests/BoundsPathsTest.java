@@ -236,6 +236,16 @@ public final class BoundsPathsTest {
             Check.due("of the third, the second one's", judge(three(root().permitted("x"), mid().names(other), leaf().names(four)), 5, 0, 2, 1, 0),
                 207);
         }
+        String[] strange = {"p", "q", "r.x", "xx"};
+        for (int n = 1; n <= 4; n++) {
+            String[] bases = Arrays.copyOf(strange, n);
+            Check.due("under none of " + n, judge(three(root(), mid().permitted(bases), leaf().names(four)), 5, 0, 2, 1, 0), 107);
+            Check.due("excluded by none of " + n, judge(three(root(), mid().excluded(bases), leaf().names(four)), 5, 0, 2, 1, 0), 0);
+            Check.due("under one, excluded by none of " + n,
+                judge(three(root(), mid().permitted("p", "q", "r", "x").excluded(bases), leaf().names(four)), 5, 0, 2, 1, 0), 0);
+            Check.due("excluded by the base that would permit",
+                judge(three(root(), mid().permitted(bases).excluded("x"), leaf().names(four)), 5, 0, 2, 1, 0), 107);
+        }
         Check.due("no NAMES", judge(three(root().permitted("z"), mid().permitted("z"), new Cert("leaf", "mid", LEAF).serial(3)), 5, 0, 2, 1, 0), 0);
         Check.due("its own", judge(three(root(), mid().permitted("c").names("z"), leaf()), 5, 0, 2, 1, 0), 0);
         Check.due("of one alone", judge(with(root().permitted("z").names("a").by(ROOT)), 5, 0, 0), 0);

@@ -250,7 +250,7 @@ public final class SecureLines {
         }
         Paper paper = house.papers[c];
         int from = 0;
-        int to = paper.numbers[11];
+        int to = paper.numbers[Paper.SIZE];
         if (what >= 8 && what <= 10 && k >= 0 && k < paper.numbers[what]) {
             int slot = Paper.NAMES + 4 * (what - 8) + k;
             from = paper.start(slot);
@@ -393,7 +393,7 @@ public final class SecureLines {
         if (rowSize < 1 || rowSize > 4) {
             return NO;
         }
-        if (house.papers[row[0]].numbers[4] != house.mill.schemePoint(x)) {
+        if (house.papers[row[0]].numbers[Paper.POINT] != house.mill.schemePoint(x)) {
             return NO;
         }
         End end = ends[e];
@@ -646,7 +646,7 @@ public final class SecureLines {
             return BAD;
         }
         Paper paper = house.papers[c];
-        if (paper.numbers[5] == 0 || paper.numbers[4] != house.mill.schemePoint(x)) {
+        if (paper.numbers[Paper.OFFICE] == 0 || paper.numbers[Paper.POINT] != house.mill.schemePoint(x)) {
             return NO;
         }
         if (officeCount >= OFFICES_MOST) {
@@ -1046,7 +1046,7 @@ public final class SecureLines {
 
         void putNumber(int value) {
             int n = value < 128 ? 1 : value < 32768 ? 2 : value < 8388608 ? 3 : 4;
-            putHeader(2, n);
+            putHeader(Paper.TAG_NUMBER, n);
             for (int i = n - 1; i >= 0; i--) {
                 put(value >>> 8 * i);
             }
@@ -1345,6 +1345,34 @@ public final class SecureLines {
         static final int LIST = 1;
         static final int ANSWER = 2;
         static final int MOST = 400;
+        static final int TAG_NODES = 48;
+        static final int TAG_NUMBER = 2;
+        static final int TAG_BYTES = 4;
+        static final int TAG_NAME = 12;
+        static final int TAG_OFFICE = 161;
+        static final int TAG_DEPTH = 162;
+        static final int TAG_USES = 163;
+        static final int TAG_NAMES = 164;
+        /** The tag of PERMITTED stands between. */
+        static final int TAG_EXCLUDED = 166;
+        /** Numbers, as field() tells them; the number of a LIST stands at SERIAL. */
+        static final int SERIAL = 0;
+        static final int FROM = 1;
+        static final int TO = 2;
+        static final int SCHEME = 3;
+        static final int POINT = 4;
+        static final int OFFICE = 5;
+        /** The state of an ANSWER, which is no OFFICE. */
+        static final int STATE = 5;
+        static final int DEPTH = 6;
+        static final int USES = 7;
+        static final int NAME_COUNT = 8;
+        static final int PERMITTED_COUNT = 9;
+        static final int EXCLUDED_COUNT = 10;
+        static final int SIZE = 11;
+        /** What USES allow: to put certificates, to put lists and answers. */
+        static final int USE_CERTIFICATES = 4;
+        static final int USE_LISTS = 8;
         /** Slots of what is marked in the bytes; from NAMES on four each for NAMES, PERMITTED, EXCLUDED. */
         static final int ISSUER = 0;
         static final int SUBJECT = 1;
@@ -1355,7 +1383,6 @@ public final class SecureLines {
         static final int EXCLUDED = 12;
 
         private final int[] bytes;
-        /** By the numbers of field(); of a LIST 0 is its number, of an ANSWER 5 is its state. */
         private final int[] numbers = new int[12];
         private final int[] marks = new int[32];
         private long signature;
@@ -1383,7 +1410,7 @@ public final class SecureLines {
         }
 
         boolean hasBytesOf(Paper other) {
-            return Row.same(bytes, 0, numbers[11], other.bytes, 0, other.numbers[11]);
+            return Row.same(bytes, 0, numbers[SIZE], other.bytes, 0, other.numbers[SIZE]);
         }
 
         boolean hasSame(int slot, Paper other, int otherSlot) {
@@ -1423,8 +1450,8 @@ public final class SecureLines {
                 if (wrong >= 0) {
                     return wrong - from;
                 }
-                at = tag == 48 ? body : body + n;
-                if (tag == 48) {
+                at = tag == TAG_NODES ? body : body + n;
+                if (tag == TAG_NODES) {
                     stops[depth] = body + n;
                     limit = body + n;
                     depth++;
@@ -1435,7 +1462,8 @@ public final class SecureLines {
         }
 
         private static boolean isTag(int tag) {
-            return tag == 48 || tag == 2 || tag == 4 || tag == 12 || tag >= 161 && tag <= 166;
+            return tag == TAG_NODES || tag == TAG_NUMBER || tag == TAG_BYTES || tag == TAG_NAME
+                || tag >= TAG_OFFICE && tag <= TAG_EXCLUDED;
         }
 
         /** How many bytes a length has that begins so; 0: there is none such. */
@@ -1453,12 +1481,12 @@ public final class SecureLines {
         }
 
         private static int contentFault(int tag, int[] bytes, int from, int to) {
-            if (tag == 12) {
+            if (tag == TAG_NAME) {
                 return nameFault(bytes, from, to);
             }
             int n = to - from;
             boolean good = n >= 1 && n <= 4 && bytes[from] < 128 && (n == 1 || bytes[from] > 0 || bytes[from + 1] > 127);
-            return tag == 2 && !good ? from : -1;
+            return tag == TAG_NUMBER && !good ? from : -1;
         }
 
         /** The place of the first byte that can't stand in a NAME, or of its end if a LABEL lacks there; -1: it is one. */
@@ -1518,18 +1546,18 @@ public final class SecureLines {
             }
             System.arraycopy(source, from, bytes, 0, n);
             Arrays.fill(numbers, 0);
-            numbers[6] = NONE;
-            numbers[7] = 15;
-            numbers[11] = n;
+            numbers[DEPTH] = NONE;
+            numbers[USES] = 15;
+            numbers[SIZE] = n;
             at = 0;
-            int whole = open(48, n);
+            int whole = open(TAG_NODES, n);
             int start = at;
-            int inner = open(48, whole);
+            int inner = open(TAG_NODES, whole);
             if (inner < 0 || !readInner(kind, inner) || at != inner) {
                 return false;
             }
             mark(INNER, start, inner);
-            int end = open(4, whole);
+            int end = open(TAG_BYTES, whole);
             if (end != whole || end - at != 8) {
                 return false;
             }
@@ -1541,7 +1569,7 @@ public final class SecureLines {
             return bytes[i] << 24 | bytes[i + 1] << 16 | bytes[i + 2] << 8 | bytes[i + 3];
         }
 
-        /** Goes into the NODE that comes next, whose length is known to be right: its end, or -1 if there is none of this tag. */
+        /** Goes into the NODE that comes next, whose length is known to be right: its end; -1 if none of this tag comes. */
         private int open(int tag, int limit) {
             if (at + 1 >= limit || bytes[at] != tag) {
                 return -1;
@@ -1558,7 +1586,7 @@ public final class SecureLines {
 
         /** The NUMBER that comes next; -1 if there is none. */
         private int readNumber(int limit) {
-            int end = open(2, limit);
+            int end = open(TAG_NUMBER, limit);
             int got = end < 0 ? -1 : 0;
             for (; at < end; at++) {
                 got = got << 8 | bytes[at];
@@ -1568,7 +1596,7 @@ public final class SecureLines {
 
         /** Marks the NAME that comes next; whether there is one. */
         private boolean readName(int slot, int limit) {
-            int end = open(12, limit);
+            int end = open(TAG_NAME, limit);
             if (end < 0) {
                 return false;
             }
@@ -1579,41 +1607,41 @@ public final class SecureLines {
 
         /** FROM, TO, SCHEME. */
         private boolean times(int limit) {
-            numbers[1] = readNumber(limit);
-            numbers[2] = readNumber(limit);
-            numbers[3] = readNumber(limit);
-            return numbers[1] >= 0 && numbers[2] >= numbers[1] && isScheme(numbers[3]);
+            numbers[FROM] = readNumber(limit);
+            numbers[TO] = readNumber(limit);
+            numbers[SCHEME] = readNumber(limit);
+            return numbers[FROM] >= 0 && numbers[TO] >= numbers[FROM] && isScheme(numbers[SCHEME]);
         }
 
         private boolean readInner(int kind, int limit) {
             if (kind == CERTIFICATE) {
-                numbers[0] = readNumber(limit);
-                return numbers[0] >= 1 && readName(ISSUER, limit) && readName(SUBJECT, limit) && times(limit)
+                numbers[SERIAL] = readNumber(limit);
+                return numbers[SERIAL] >= 1 && readName(ISSUER, limit) && readName(SUBJECT, limit) && times(limit)
                     && pointNode(limit) && extensions(limit);
             }
             if (!readName(ISSUER, limit)) {
                 return false;
             }
-            numbers[0] = readNumber(limit);
+            numbers[SERIAL] = readNumber(limit);
             if (kind == LIST) {
-                return numbers[0] >= 0 && times(limit) && serials(limit);
+                return numbers[SERIAL] >= 0 && times(limit) && serials(limit);
             }
-            numbers[5] = readNumber(limit);
-            return numbers[0] >= 0 && (numbers[5] == 0 || numbers[5] == 1) && times(limit);
+            numbers[STATE] = readNumber(limit);
+            return numbers[SERIAL] >= 0 && (numbers[STATE] == 0 || numbers[STATE] == 1) && times(limit);
         }
 
         private boolean pointNode(int limit) {
-            int end = open(4, limit);
+            int end = open(TAG_BYTES, limit);
             if (end < 0 || end - at != 4) {
                 return false;
             }
-            numbers[4] = fourAt(at);
+            numbers[POINT] = fourAt(at);
             at = end;
             return true;
         }
 
         private boolean serials(int limit) {
-            int end = open(4, limit);
+            int end = open(TAG_BYTES, limit);
             if (end < 0 || end - at > 160 || (end - at) % 4 != 0) {
                 return false;
             }
@@ -1639,26 +1667,26 @@ public final class SecureLines {
         }
 
         private boolean extensions(int limit) {
-            int last = 160;
+            int last = TAG_OFFICE - 1;
             for (int turn = 0; turn <= 6 && at < limit; turn++) {
                 int tag = bytes[at];
                 int end = open(tag, limit);
-                if (tag <= last || tag > 166 || end < 0) {
+                if (tag <= last || tag > TAG_EXCLUDED || end < 0) {
                     return false;
                 }
                 boolean one = end - at == 1;
                 boolean good = true;
-                if (tag == 161) {
-                    numbers[5] = 1;
+                if (tag == TAG_OFFICE) {
+                    numbers[OFFICE] = 1;
                     good = end == at;
-                } else if (tag == 162) {
-                    numbers[6] = one ? bytes[at] : 7;
-                    good = numbers[5] == 1 && numbers[6] <= 6;
-                } else if (tag == 163) {
-                    numbers[7] = one ? bytes[at] : 0;
-                    good = numbers[7] >= 1 && numbers[7] <= 15;
+                } else if (tag == TAG_DEPTH) {
+                    numbers[DEPTH] = one ? bytes[at] : 7;
+                    good = numbers[OFFICE] == 1 && numbers[DEPTH] <= 6;
+                } else if (tag == TAG_USES) {
+                    numbers[USES] = one ? bytes[at] : 0;
+                    good = numbers[USES] >= 1 && numbers[USES] <= 15;
                 } else {
-                    good = names(tag - 164, end);
+                    good = names(tag - TAG_NAMES, end);
                 }
                 if (!good) {
                     return false;
@@ -1673,7 +1701,7 @@ public final class SecureLines {
         private boolean names(int k, int limit) {
             int count = 0;
             while (at < limit && count < 4) {
-                boolean fits = at + 1 < limit && bytes[at] == 12 && bytes[at + 1] < 128;
+                boolean fits = at + 1 < limit && bytes[at] == TAG_NAME && bytes[at + 1] < 128;
                 int end = fits ? at + 2 + bytes[at + 1] : -1;
                 if (end < 0 || end > limit) {
                     return false;
@@ -1687,7 +1715,7 @@ public final class SecureLines {
                 count++;
                 at = end;
             }
-            numbers[8 + k] = count;
+            numbers[NAME_COUNT + k] = count;
             return count > 0 && at == limit;
         }
     }
@@ -1733,9 +1761,9 @@ public final class SecureLines {
         void wrapRow(Row inside, int scheme, int x, Row whole) {
             long signature = mill.signed(scheme, x, inside.bytes, 0, inside.size);
             whole.clear();
-            whole.putHeader(48, inside.size + Row.SIGNATURE_NODE);
+            whole.putHeader(Paper.TAG_NODES, inside.size + Row.SIGNATURE_NODE);
             whole.take(inside.bytes, 0, inside.size);
-            whole.putHeader(4, 8);
+            whole.putHeader(Paper.TAG_BYTES, 8);
             whole.putSecret(signature);
         }
 
@@ -1777,8 +1805,8 @@ public final class SecureLines {
             if (kept && paper.looked[place] != 0) {
                 return paper.looked[place] == 1;
             }
-            boolean good = mill.proves(paper.numbers[3], issuer.numbers[4], paper.signature, paper.bytes,
-                paper.start(Paper.INNER), paper.stop(Paper.INNER));
+            boolean good = mill.proves(paper.numbers[Paper.SCHEME], issuer.numbers[Paper.POINT], paper.signature,
+                paper.bytes, paper.start(Paper.INNER), paper.stop(Paper.INNER));
             if (kept) {
                 paper.looked[place] = good ? 1 : 2;
             }
@@ -1787,27 +1815,27 @@ public final class SecureLines {
 
         /** Whether a LIST or an ANSWER has c's ISSUER and a time. */
         private static boolean covers(Paper paper, Paper c, int when) {
-            return paper.numbers[1] <= when && when <= paper.numbers[2]
+            return paper.numbers[Paper.FROM] <= when && when <= paper.numbers[Paper.TO]
                 && paper.hasSame(Paper.ISSUER, c, Paper.ISSUER);
         }
 
         /** By what an issuer has put: 0 neither, 1 REVOKED, 2 UNKNOWN. */
         int standing(Paper c, Paper issuer, int when) {
-            if ((issuer.numbers[7] & 8) == 0) {
+            if ((issuer.numbers[Paper.USES] & Paper.USE_LISTS) == 0) {
                 return 2;
             }
-            int serial = c.numbers[0];
-            if (stapled && staple.numbers[0] == serial && covers(staple, c, when) && isBy(staple, issuer)) {
-                return staple.numbers[5];
+            int serial = c.numbers[Paper.SERIAL];
+            if (stapled && staple.numbers[Paper.SERIAL] == serial && covers(staple, c, when) && isBy(staple, issuer)) {
+                return staple.numbers[Paper.STATE];
             }
             for (int i = answerCount - 1; i >= 0; i--) {
-                if (answers[i].numbers[0] == serial && covers(answers[i], c, when) && isBy(answers[i], issuer)) {
-                    return answers[i].numbers[5];
+                if (answers[i].numbers[Paper.SERIAL] == serial && covers(answers[i], c, when) && isBy(answers[i], issuer)) {
+                    return answers[i].numbers[Paper.STATE];
                 }
             }
             Paper best = null;
             for (int i = 0; i < listCount; i++) {
-                boolean later = best == null || lists[i].numbers[0] >= best.numbers[0];
+                boolean later = best == null || lists[i].numbers[Paper.SERIAL] >= best.numbers[Paper.SERIAL];
                 if (later && covers(lists[i], c, when) && isBy(lists[i], issuer)) {
                     best = lists[i];
                 }
@@ -1818,7 +1846,8 @@ public final class SecureLines {
         /** The ANSWER that came last for a CERTIFICATE, or null. */
         Paper answerOf(Paper c) {
             for (int i = answerCount - 1; i >= 0; i--) {
-                if (answers[i].numbers[0] == c.numbers[0] && answers[i].hasSame(Paper.ISSUER, c, Paper.ISSUER)) {
+                boolean same = answers[i].numbers[Paper.SERIAL] == c.numbers[Paper.SERIAL];
+                if (same && answers[i].hasSame(Paper.ISSUER, c, Paper.ISSUER)) {
                     return answers[i];
                 }
             }
@@ -1882,19 +1911,19 @@ public final class SecureLines {
         }
 
         private int whyOfIssue(Paper c, Paper issuer, int when) {
-            return !isBy(c, issuer) ? 1 : when < c.numbers[1] ? 2 : when > c.numbers[2] ? 3 : 0;
+            return !isBy(c, issuer) ? 1 : when < c.numbers[Paper.FROM] ? 2 : when > c.numbers[Paper.TO] ? 3 : 0;
         }
 
         private int whyOfRights(int i, int use) {
             Paper c = path[i];
-            int need = i > 0 ? 4 : use;
-            if (i > 0 && c.numbers[5] == 0) {
+            int need = i > 0 ? Paper.USE_CERTIFICATES : use;
+            if (i > 0 && c.numbers[Paper.OFFICE] == 0) {
                 return 4;
             }
-            if ((c.numbers[7] & need) != need) {
+            if ((c.numbers[Paper.USES] & need) != need) {
                 return 5;
             }
-            if (c.numbers[6] != NONE && c.numbers[6] < i - 1) {
+            if (c.numbers[Paper.DEPTH] != NONE && c.numbers[Paper.DEPTH] < i - 1) {
                 return 6;
             }
             for (int j = 0; j < i; j++) {
@@ -1907,12 +1936,12 @@ public final class SecureLines {
 
         /** Whether all NAMES of one LIE UNDER what an office PERMITS, and none under what it EXCLUDES. */
         private static boolean mayName(Paper office, Paper c) {
-            for (int i = 0; i < c.numbers[8]; i++) {
-                boolean permitted = office.numbers[9] == 0;
-                for (int j = 0; j < office.numbers[9] && !permitted; j++) {
+            for (int i = 0; i < c.numbers[Paper.NAME_COUNT]; i++) {
+                boolean permitted = office.numbers[Paper.PERMITTED_COUNT] == 0;
+                for (int j = 0; j < office.numbers[Paper.PERMITTED_COUNT] && !permitted; j++) {
                     permitted = c.liesUnder(Paper.NAMES + i, office, Paper.PERMITTED + j);
                 }
-                for (int j = 0; j < office.numbers[10] && permitted; j++) {
+                for (int j = 0; j < office.numbers[Paper.EXCLUDED_COUNT] && permitted; j++) {
                     permitted = !c.liesUnder(Paper.NAMES + i, office, Paper.EXCLUDED + j);
                 }
                 if (!permitted) {
@@ -2469,6 +2498,7 @@ public final class SecureLines {
 
         // ---- what comes
 
+        /** All in one, for the calls from here to a block of a digest may go no deeper. */
         void arrive(int[] bytes, int from, int to) {
             int at = from;
             while (at < to && told[STATE] != 2 && told[OTHER_CLOSED] == 0) {
@@ -2774,12 +2804,12 @@ public final class SecureLines {
             message.put(n);
             for (int i = 0; i < n; i++) {
                 Paper paper = house.papers[end.identity[i]];
-                message.putTwo(paper.numbers[11]);
-                message.take(paper.bytes, 0, paper.numbers[11]);
+                message.putTwo(paper.numbers[Paper.SIZE]);
+                message.take(paper.bytes, 0, paper.numbers[Paper.SIZE]);
             }
-            message.putTwo(answer == null ? 0 : answer.numbers[11]);
+            message.putTwo(answer == null ? 0 : answer.numbers[Paper.SIZE]);
             if (answer != null) {
-                message.take(answer.bytes, 0, answer.numbers[11]);
+                message.take(answer.bytes, 0, answer.numbers[Paper.SIZE]);
             }
         }
 
@@ -2878,7 +2908,7 @@ public final class SecureLines {
 
         void takeChain() {
             told[SHOWN] = pending.at(3);
-            otherPoint = house.shown[0].numbers[4];
+            otherPoint = house.shown[0].numbers[Paper.POINT];
         }
 
         /** The key for reading is new; whether NEW KEYS are to be put, too. */
@@ -3084,7 +3114,7 @@ public final class SecureLines {
             int fault = alertOf(why);
             Paper first = house.shown[0];
             boolean met = fault != 0 || end.host.size == 0;
-            for (int i = 0; i < first.numbers[8] && !met; i++) {
+            for (int i = 0; i < first.numbers[Paper.NAME_COUNT] && !met; i++) {
                 met = first.meets(Paper.NAMES + i, end.host.bytes, end.host.size);
             }
             return met ? fault : 42;
@@ -3809,25 +3839,25 @@ public final class SecureLines {
             inside.putNumber(serialCount + 1);
             putIssuer(inside);
             Row subject = patterns[base];
-            inside.putNode(12, subject.bytes, Paper.behindStar(subject.bytes, 0, subject.size), subject.size);
+            inside.putNode(Paper.TAG_NAME, subject.bytes, Paper.behindStar(subject.bytes, 0, subject.size), subject.size);
             putTimes(inside, minutes);
-            inside.putHeader(4, 4);
+            inside.putHeader(Paper.TAG_BYTES, 4);
             inside.putFour(y);
-            inside.putHeader(163, 1);
+            inside.putHeader(Paper.TAG_USES, 1);
             inside.put(3);
             int size = 0;
             for (int i = 0; i < patternCounts[order]; i++) {
                 size += 2 + patterns[base + i].size;
             }
-            inside.putHeader(164, size);
+            inside.putHeader(Paper.TAG_NAMES, size);
             for (int i = 0; i < patternCounts[order]; i++) {
-                inside.putNode(12, patterns[base + i].bytes, 0, patterns[base + i].size);
+                inside.putNode(Paper.TAG_NAME, patterns[base + i].bytes, 0, patterns[base + i].size);
             }
             return inside;
         }
 
         private void putIssuer(Row inside) {
-            inside.putNode(12, paper.bytes, paper.start(Paper.SUBJECT), paper.stop(Paper.SUBJECT));
+            inside.putNode(Paper.TAG_NAME, paper.bytes, paper.start(Paper.SUBJECT), paper.stop(Paper.SUBJECT));
         }
 
         /** FROM, TO, SCHEME. */
@@ -3841,7 +3871,7 @@ public final class SecureLines {
         private Row sealed(Row inside) {
             Row inner = house.inner;
             inner.clear();
-            inner.putNode(48, inside.bytes, 0, inside.size);
+            inner.putNode(Paper.TAG_NODES, inside.bytes, 0, inside.size);
             house.wrapRow(inner, scheme, key, house.message);
             return house.message;
         }
@@ -3877,7 +3907,7 @@ public final class SecureLines {
             putIssuer(inside);
             inside.putNumber(listCount + 1);
             putTimes(inside, minutes);
-            inside.putHeader(4, 4 * revokedCount);
+            inside.putHeader(Paper.TAG_BYTES, 4 * revokedCount);
             for (int i = 0; i < revokedCount; i++) {
                 inside.putFour(revoked[i]);
             }
